@@ -8,6 +8,7 @@ public final class ComparingTest {
         swapOfOtherSizes();
         differences();
         differencesOfOneKind();
+        differencesAtTheEnds();
         undoOfFour();
         undoAndGoOn();
         eachChangeCounts();
@@ -110,6 +111,29 @@ public final class ComparingTest {
         // Both have (1 - 3t)^2; the factors are 2, 2 and 1, 2, 2.
         Due.is("differences() with a factor 1 more",
                 differ(new int[][] {{3, 0}, {0, 3}}, new int[][] {{0, 0, 0}, {0, 3, 0}, {1, 0, 3}}), 4);
+    }
+
+    /** Six states whose polynomials differ in the last coefficient alone, or whose factors in the first one alone. */
+    private static void differencesAtTheEnds() {
+        int[][] ring = Due.full(6, 0);
+        for (int state = 0; state < 6; state++) {
+            ring[state][(state + 1) % 6] = 1;
+        }
+        ring[0][1] = 2;
+        int[][] chain = Due.full(6, 0);
+        for (int state = 0; state < 5; state++) {
+            chain[state][state + 1] = 1;
+        }
+        Due.is("differences() of a ring of six and a chain", differ(ring, chain), 1);
+        int[][] sevens = Due.full(6, 0);
+        for (int state = 0; state < 6; state++) {
+            sevens[state][state] = 7;
+        }
+        int[][] sevensAndThree = Due.full(6, 0);
+        for (int state = 0; state < 6; state++) {
+            sevensAndThree[state][state] = state == 4 ? 3 : 7;
+        }
+        Due.is("differences() of factors 6 and of 2 and 6", differ(sevens, sevensAndThree), 3);
     }
 
     private static void undoOfFour() {

@@ -2,11 +2,13 @@ import java.lang.reflect.Constructor;
 import java.lang.reflect.Field;
 import java.lang.reflect.Method;
 import java.lang.reflect.Modifier;
+import java.nio.file.Files;
+import java.nio.file.Path;
 import java.util.Arrays;
 import java.util.List;
 import java.util.TreeSet;
 
-/** The public face, and those rules of LANGUAGE.md that can be seen from the compiled class. */
+/** The public face, and those rules of LANGUAGE.md that can be seen from the compiled class or from single words. */
 public final class FaceTest {
 
     private static final List<String> FACE = List.of(
@@ -18,7 +20,12 @@ public final class FaceTest {
             "int inSplit(int)", "int outMerge(int,int)", "int inMerge(int,int)", "int coreSize()", "int save()",
             "int swapSaved()", "int differences()", "int undo()");
 
-    public static void main(String[] args) {
+    private static final List<String> FORBIDDEN = List.of(
+            "import ", "package ", "throw", "try ", "catch", "finally", "synchronized", "assert", "->", "::", "@",
+            "Exact(", "equals(", "hashCode(", "toString(", "System.out", "Random", "Thread", "transient", "volatile");
+
+    public static void main(String[] args) throws java.io.IOException {
+        words(Files.readString(Path.of("src/main/java/ShiftWorkbench.java")));
         constants();
         members();
         namesOfPrivateMethods();
@@ -33,6 +40,14 @@ public final class FaceTest {
 
     private static void holds(String what, boolean is) {
         Due.is(what, is ? 1 : 0, 1);
+    }
+
+    private static void words(String source) {
+        String code = source.replaceAll("(?s)/\\*.*?\\*/", "").replaceAll("//[^\n]*", "");
+        for (String word : FORBIDDEN) {
+            holds("the class is written without '" + word + "'", !code.contains(word));
+        }
+        holds("the class is written in ASCII", source.chars().allMatch(sign -> sign < 128));
     }
 
     private static void constants() {
