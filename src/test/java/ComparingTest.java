@@ -12,7 +12,6 @@ public final class ComparingTest {
         undoOfFour();
         undoAndGoOn();
         eachChangeCounts();
-        errorsAreNoChanges();
         Due.end();
     }
 
@@ -115,25 +114,12 @@ public final class ComparingTest {
 
     /** Six states whose polynomials differ in the last coefficient alone, or whose factors in the first one alone. */
     private static void differencesAtTheEnds() {
-        int[][] ring = Due.full(6, 0);
-        for (int state = 0; state < 6; state++) {
-            ring[state][(state + 1) % 6] = 1;
-        }
+        int[][] ring = Due.ring(6);
         ring[0][1] = 2;
-        int[][] chain = Due.full(6, 0);
-        for (int state = 0; state < 5; state++) {
-            chain[state][state + 1] = 1;
-        }
-        Due.is("differences() of a ring of six and a chain", differ(ring, chain), 1);
-        int[][] sevens = Due.full(6, 0);
-        for (int state = 0; state < 6; state++) {
-            sevens[state][state] = 7;
-        }
-        int[][] sevensAndThree = Due.full(6, 0);
-        for (int state = 0; state < 6; state++) {
-            sevensAndThree[state][state] = state == 4 ? 3 : 7;
-        }
-        Due.is("differences() of factors 6 and of 2 and 6", differ(sevens, sevensAndThree), 3);
+        Due.is("differences() of a ring of six and a chain", differ(ring, Due.chain(6)), 1);
+        int[][] sevensAndThree = Due.diagonal(6, 7);
+        sevensAndThree[4][4] = 3;
+        Due.is("differences() of factors 6 and of 2 and 6", differ(Due.diagonal(6, 7), sevensAndThree), 3);
     }
 
     private static void undoOfFour() {
@@ -188,25 +174,5 @@ public final class ComparingTest {
         Due.matrix("after undo() of all", x, Due.full(2, 1));
         x.reset(2);
         Due.is("undo() of reset", x.undo(), 0);
-    }
-
-    private static void errorsAreNoChanges() {
-        ShiftWorkbench x = new ShiftWorkbench();
-        x.setEntry(1, 0, 0);
-        x.setShare(0, 9);
-        x.reset(0);
-        x.setEntry(2, 0, 0);
-        x.setEntry(0, 0, 10);
-        x.outSplit(0);
-        x.outSplit(2);
-        x.inSplit(0);
-        x.inSplit(-1);
-        x.outMerge(0, 1);
-        x.outMerge(0, 0);
-        x.inMerge(0, 1);
-        x.inMerge(1, 2);
-        Due.matrix("after errors", x, Due.row(1, 1), Due.row(0, 1));
-        Due.is("undo() after errors", x.undo(), 0);
-        Due.matrix("after errors and undo()", x, Due.full(2, 1));
     }
 }

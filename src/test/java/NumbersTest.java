@@ -5,7 +5,6 @@ public final class NumbersTest {
         goldenMean();
         greatestCounts();
         ring();
-        wrongLengths();
         coefficients();
         radius();
         exactRadius();
@@ -50,24 +49,6 @@ public final class NumbersTest {
             Due.is("blocks(" + n + ") of a ring", x.blocks(n), 5);
             Due.is("periodicPoints(" + n + ") of a ring", x.periodicPoints(n), n % 4 == 0 ? 4 : 0);
             Due.is("orbits(" + n + ") of a ring", x.orbits(n), n == 4 ? 1 : 0);
-        }
-    }
-
-    private static void wrongLengths() {
-        ShiftWorkbench x = new ShiftWorkbench();
-        int[] wrong = {0, 9, -1, 10, Integer.MIN_VALUE, Integer.MAX_VALUE};
-        for (int n : wrong) {
-            Due.is("blocks(" + n + ")", x.blocks(n), Due.INVALID);
-            Due.is("periodicPoints(" + n + ")", x.periodicPoints(n), Due.INVALID);
-            Due.is("orbits(" + n + ")", x.orbits(n), Due.INVALID);
-        }
-        int[] wrongPowers = {-1, 7, 8, Integer.MIN_VALUE, Integer.MAX_VALUE};
-        for (int n : wrongPowers) {
-            Due.is("coefficient(" + n + ")", x.coefficient(n), Due.INVALID);
-        }
-        int[] wrongFactors = {0, 3, -1, 6, 7, Integer.MIN_VALUE, Integer.MAX_VALUE};
-        for (int k : wrongFactors) {
-            Due.is("factor(" + k + ")", x.factor(k), Due.INVALID);
         }
     }
 
