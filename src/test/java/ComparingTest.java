@@ -1,4 +1,4 @@
-/** Promises 26 to 29. */
+/** Promises 26 to 28, and what undo() does to the saved matrix. */
 public final class ComparingTest {
 
     public static void main(String[] args) {
@@ -6,12 +6,11 @@ public final class ComparingTest {
         saveIsUndoneWithTheChangeBefore();
         swapSaved();
         swapOfOtherSizes();
+        sizesThatSaveAndSwapReturn();
         differences();
         differencesOfOneKind();
         differencesAtTheEnds();
-        undoOfFour();
-        undoAndGoOn();
-        eachChangeCounts();
+        differencesOfOneStateAndMore();
         Due.end();
     }
 
@@ -71,6 +70,24 @@ public final class ComparingTest {
         Due.is("entry(1, 1) of five states", x.entry(1, 1), 0);
     }
 
+    /** "Returns N", "Returns the new N", from one to six, and that nothing of a greater matrix stays. */
+    private static void sizesThatSaveAndSwapReturn() {
+        for (int first = 1; first <= 6; first++) {
+            for (int second = 1; second <= 6; second++) {
+                ShiftWorkbench x = Due.bench(Due.full(first, 9));
+                Due.is("save() of " + first, x.save(), first);
+                Due.lay(x, Due.ring(second));
+                Due.is("swapSaved() of " + second + " and " + first, x.swapSaved(), first);
+                Due.matrix("swapped", x, Due.full(first, 9));
+                Due.is("swapSaved() back", x.swapSaved(), second);
+                Due.matrix("swapped back", x, Due.ring(second));
+                Due.is("save() of " + second, x.save(), second);
+                Due.is("swapSaved() of the same", x.swapSaved(), second);
+                Due.matrix("swapped with the same", x, Due.ring(second));
+            }
+        }
+    }
+
     private static int differ(int[][] first, int[][] second) {
         ShiftWorkbench x = Due.bench(first);
         x.save();
@@ -122,57 +139,16 @@ public final class ComparingTest {
         Due.is("differences() of factors 6 and of 2 and 6", differ(Due.diagonal(6, 7), sevensAndThree), 3);
     }
 
-    private static void undoOfFour() {
-        ShiftWorkbench x = new ShiftWorkbench();
-        for (int value = 2; value <= 8; value++) {
-            x.setEntry(0, 1, value);
+    private static void differencesOfOneStateAndMore() {
+        for (int states = 1; states <= 6; states++) {
+            String one = "differences() of one state and " + states;
+            int otherCore = states == 1 ? 0 : 4;
+            Due.is(one + " without edges", differ(Due.full(1, 0), Due.full(states, 0)), 0);
+            Due.is(one + " in a chain", differ(Due.full(1, 0), Due.chain(states)), otherCore);
+            Due.is(one + " with a loop each", differ(Due.full(1, 1), Due.diagonal(states, 1)), states == 1 ? 0 : 7);
+            Due.is(one + " with two loops each", differ(Due.full(1, 2), Due.diagonal(states, 2)), states == 1 ? 0 : 5);
+            Due.is(one + " in a ring", differ(Due.full(1, 1), Due.ring(states)), states == 1 ? 0 : 5);
+            Due.is(one + " of nines", differ(Due.full(1, 9), Due.full(states, 9)), states == 1 ? 0 : 3);
         }
-        for (int left = 3; left >= 0; left--) {
-            Due.is("undo() with " + left + " left", x.undo(), left);
-            Due.is("entry(0, 1) with " + left + " left", x.entry(0, 1), left + 4);
-        }
-        Due.is("undo() with none left", x.undo(), Due.IMPOSSIBLE);
-        Due.is("entry(0, 1) with none left", x.entry(0, 1), 4);
-    }
-
-    private static void undoAndGoOn() {
-        ShiftWorkbench x = new ShiftWorkbench();
-        x.setEntry(0, 0, 2);
-        x.setEntry(0, 0, 3);
-        x.setEntry(0, 0, 4);
-        Due.is("undo()", x.undo(), 2);
-        x.setEntry(0, 0, 5);
-        x.setEntry(0, 0, 6);
-        x.setEntry(0, 0, 7);
-        int[] want = {6, 5, 3, 2};
-        for (int step = 0; step < 4; step++) {
-            Due.is("undo() after going on, " + step, x.undo(), 3 - step);
-            Due.is("entry(0, 0) after going on, " + step, x.entry(0, 0), want[step]);
-        }
-        Due.is("undo() at the end", x.undo(), Due.IMPOSSIBLE);
-    }
-
-    private static void eachChangeCounts() {
-        ShiftWorkbench x = new ShiftWorkbench();
-        x.setEntry(0, 0, 1);
-        x.trim();
-        x.swapSaved();
-        Due.is("undo() of three that changed nothing", x.undo(), 2);
-        Due.is("undo()", x.undo(), 1);
-        Due.is("undo()", x.undo(), 0);
-        x.outSplit(0);
-        x.outMerge(0, 2);
-        x.inSplit(0);
-        x.inMerge(0, 2);
-        Due.is("undo() of inMerge", x.undo(), 3);
-        Due.is("size() before inMerge", x.size(), 3);
-        Due.is("undo() of inSplit", x.undo(), 2);
-        Due.is("size() before inSplit", x.size(), 2);
-        Due.is("undo() of outMerge", x.undo(), 1);
-        Due.is("size() before outMerge", x.size(), 3);
-        Due.is("undo() of outSplit", x.undo(), 0);
-        Due.matrix("after undo() of all", x, Due.full(2, 1));
-        x.reset(2);
-        Due.is("undo() of reset", x.undo(), 0);
     }
 }

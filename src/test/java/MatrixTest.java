@@ -8,7 +8,9 @@ public final class MatrixTest {
         setEntry();
         entry();
         essentialStates();
+        essentialStatesOfAChainWithLoops();
         trim();
+        trimOfEachSet();
         Due.end();
     }
 
@@ -80,7 +82,7 @@ public final class MatrixTest {
         Due.is("essential: one state without an edge", Due.bench(Due.row(0)).essentialStates(), 0);
         Due.is("essential: one state with an edge", Due.bench(Due.row(1)).essentialStates(), 1);
         // 0 only leads in, 5 only leads out, 1 and 4 bear edges to themselves, 2 and 3 lie between.
-        ShiftWorkbench chain = chainOfSix();
+        ShiftWorkbench chain = Due.bench(Due.chain(6));
         chain.setEntry(1, 1, 2);
         chain.setEntry(4, 4, 1);
         Due.is("essential: between two cycles", chain.essentialStates(), 30);
@@ -97,17 +99,21 @@ public final class MatrixTest {
                 Due.bench(Due.row(0, 1), Due.row(0, 1)).essentialStates(), 2);
     }
 
-    private static ShiftWorkbench chainOfSix() {
-        ShiftWorkbench x = new ShiftWorkbench();
-        x.reset(6);
-        for (int state = 0; state < 5; state++) {
-            x.setEntry(state, state + 1, 1);
+    /** "arbitrarily long paths": those into the first loop and those out of the last one come to an end. */
+    private static void essentialStatesOfAChainWithLoops() {
+        for (int set = 0; set < 64; set++) {
+            int[][] rows = Due.chain(6);
+            for (int state = 0; state < 6; state++) {
+                rows[state][state] = set >> state & 1;
+            }
+            int last = Integer.highestOneBit(set);
+            int between = set == 0 ? 0 : 2 * last - Integer.lowestOneBit(set);
+            Due.is("essential: a chain with the loops " + set, Due.bench(rows).essentialStates(), between);
         }
-        return x;
     }
 
     private static void trim() {
-        ShiftWorkbench x = chainOfSix();
+        ShiftWorkbench x = Due.bench(Due.chain(6));
         Due.is("trim() of a chain", x.trim(), Due.IMPOSSIBLE);
         Due.is("size() after trim() of a chain", x.size(), 6);
         Due.is("undo() takes the change before that trim()", x.undo(), 3);
@@ -134,5 +140,27 @@ public final class MatrixTest {
         ShiftWorkbench y = Due.bench(Due.row(0, 1), Due.row(0, 1));
         Due.is("trim() to the last state", y.trim(), 1);
         Due.matrix("after trim() to the last state", y, Due.row(1));
+    }
+
+    /** "Returns the number of states that were removed", from none to five, wherever they lie. */
+    private static void trimOfEachSet() {
+        for (int set = 1; set < 64; set++) {
+            int[][] rows = new int[6][6];
+            int[][] left = new int[Integer.bitCount(set)][Integer.bitCount(set)];
+            int found = 0;
+            for (int state = 0; state < 6; state++) {
+                if ((set >> state & 1) == 1) {
+                    rows[state][state] = state + 4;
+                    left[found][found] = state + 4;
+                    found++;
+                }
+            }
+            ShiftWorkbench x = Due.bench(rows);
+            Due.is("essentialStates() of the loops " + set, x.essentialStates(), set);
+            Due.is("trim() to the loops " + set, x.trim(), 6 - found);
+            Due.matrix("after trim() to the loops " + set, x, left);
+            Due.is("essentialStates() after that", x.essentialStates(), (1 << found) - 1);
+            Due.is("trim() again", x.trim(), 0);
+        }
     }
 }

@@ -8,6 +8,7 @@ public final class NumbersTest {
         coefficients();
         radius();
         exactRadius();
+        radiusNearATenth();
         determinant();
         factors();
         Due.end();
@@ -103,6 +104,29 @@ public final class NumbersTest {
         x.setEntry(5, 5, 8);
         // The greater root of x^2 - 53x - 45 is 53.836.
         Due.is("radiusTenths() of nines and one 8", x.radiusTenths(), 538);
+    }
+
+    /** "the greatest integer r .. for which the spectral radius is at least r / 10": from just above and just below. */
+    private static void radiusNearATenth() {
+        // sqrt(24), 1 + sqrt(26), then (a + sqrt(d)) / 2 with d = 41, 185 and 13: 4.899, 6.099, 3.7016, 9.3007, 2.303.
+        Due.is("radiusTenths() below 4.9", Due.bench(Due.row(0, 3), Due.row(8, 0)).radiusTenths(), 48);
+        Due.is("radiusTenths() below 6.1", Due.bench(Due.row(2, 5), Due.row(5, 0)).radiusTenths(), 60);
+        Due.is("radiusTenths() above 3.7", Due.bench(Due.row(1, 2), Due.row(5, 0)).radiusTenths(), 37);
+        Due.is("radiusTenths() above 9.3", Due.bench(Due.row(5, 5), Due.row(8, 0)).radiusTenths(), 93);
+        Due.is("radiusTenths() above 2.3", Due.bench(Due.row(1, 1), Due.row(3, 0)).radiusTenths(), 23);
+        // 5.7^6 is 34296.4, 4.2^6 is 5489.03 and 4.3^5 is 1470.08.
+        Due.is("radiusTenths() above 5.7", ringWith(7, 7, 7, 5, 5, 4).radiusTenths(), 57);
+        Due.is("radiusTenths() below 4.2", ringWith(8, 7, 7, 7, 2, 1).radiusTenths(), 41);
+        Due.is("radiusTenths() below 4.3", ringWith(7, 7, 6, 5, 1).radiusTenths(), 42);
+    }
+
+    /** The radius is the root of the product. */
+    private static ShiftWorkbench ringWith(int... edges) {
+        int[][] rows = new int[edges.length][edges.length];
+        for (int state = 0; state < edges.length; state++) {
+            rows[state][(state + 1) % edges.length] = edges[state];
+        }
+        return Due.bench(rows);
     }
 
     private static void determinant() {

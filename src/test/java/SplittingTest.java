@@ -9,10 +9,14 @@ public final class SplittingTest {
         outSplit();
         inSplit();
         splitsWithoutShares();
+        splitsToTheSixthState();
+        splitsAfterStatesWereRemoved();
         outMerge();
         inMerge();
         mergeAtTheLimit();
+        higherNumbersGetLower();
         coreSize();
+        coreSizeWithoutLimit();
         Due.end();
     }
 
@@ -94,6 +98,53 @@ public final class SplittingTest {
         Due.matrix("after inSplit(0) with all", z, Due.row(0, 9), Due.row(0, 9));
     }
 
+    /** The shares of 5, which does not exist yet, and of the others that are 0 or all of an entry. */
+    private static void splitsToTheSixthState() {
+        int[][] rows = {{3, 0, 9, 1, 2}, {1, 0, 0, 0, 0}, {2, 0, 0, 0, 0}, {0, 4, 0, 0, 0}, {5, 0, 0, 0, 6}};
+        ShiftWorkbench x = Due.bench(rows);
+        Due.share(x, 3, 0, 9, 0, 1, 9);
+        Due.is("outSplit(0) to the sixth state", x.outSplit(0), 6);
+        Due.matrix("after outSplit(0) to the sixth state", x,
+                Due.row(0, 0, 0, 1, 1, 0),
+                Due.row(1, 0, 0, 0, 0, 1),
+                Due.row(2, 0, 0, 0, 0, 2),
+                Due.row(0, 4, 0, 0, 0, 0),
+                Due.row(5, 0, 0, 0, 6, 5),
+                Due.row(3, 0, 9, 0, 1, 3));
+        Due.is("undo()", x.undo(), 3);
+        Due.share(x, 1, 0, 0, 0, 6, 9);
+        Due.is("inSplit(4) to the sixth state", x.inSplit(4), 6);
+        Due.matrix("after inSplit(4) to the sixth state", x,
+                Due.row(3, 0, 9, 1, 1, 1),
+                Due.row(1, 0, 0, 0, 0, 0),
+                Due.row(2, 0, 0, 0, 0, 0),
+                Due.row(0, 4, 0, 0, 0, 0),
+                Due.row(5, 0, 0, 0, 0, 6),
+                Due.row(5, 0, 0, 0, 0, 6));
+        Due.is("outSplit(5) of the sixth state", x.outSplit(5), Due.IMPOSSIBLE);
+        Due.share(x, 0, 0, 0, 0, 0, 0);
+        Due.is("outSplit(5) of the sixth state without shares", x.outSplit(5), Due.LIMIT);
+    }
+
+    /** Nothing of the states that were there before comes back with the new one. */
+    private static void splitsAfterStatesWereRemoved() {
+        ShiftWorkbench x = Due.bench(Due.full(6, 9));
+        x.reset(1);
+        x.setEntry(0, 0, 2);
+        Due.share(x, 1);
+        x.outSplit(0);
+        Due.matrix("split after reset()", x, Due.row(1, 1), Due.row(1, 1));
+        ShiftWorkbench y = Due.bench(Due.row(2, 0, 7), Due.row(0, 0, 7), Due.row(0, 0, 0));
+        y.trim();
+        y.inSplit(0);
+        Due.matrix("split after trim()", y, Due.row(2, 0), Due.row(2, 0));
+        ShiftWorkbench z = Due.bench(Due.row(1, 4, 4), Due.row(1, 4, 4), Due.row(8, 5, 5));
+        z.outMerge(1, 2);
+        Due.matrix("merged", z, Due.row(1, 4), Due.row(9, 9));
+        z.outSplit(0);
+        Due.matrix("split after outMerge()", z, Due.row(1, 4, 1), Due.row(9, 9, 9), Due.row(0, 0, 0));
+    }
+
     private static void outMerge() {
         int[][] rows = {{1, 2, 4, 2}, {3, 1, 5, 1}, {0, 7, 6, 7}, {2, 0, 3, 0}};
         ShiftWorkbench x = Due.bench(rows);
@@ -138,6 +189,53 @@ public final class SplittingTest {
         Due.matrix("after inMerge(0, 1)", y, Due.row(2, 5), Due.row(4, 0));
     }
 
+    /** "The states with higher numbers than j get a number that is lower by one", for each pair in both orders. */
+    private static void higherNumbersGetLower() {
+        for (int states = 2; states <= 6; states++) {
+            for (int low = 0; low < states; low++) {
+                for (int high = low + 1; high < states; high++) {
+                    mergeInBothOrders(states, low, high);
+                }
+            }
+        }
+    }
+
+    /** Each column has its number in the diagonal, but for the higher of the two, whose column is that of the lower one. */
+    private static void mergeInBothOrders(int states, int low, int high) {
+        int[][] rows = Due.diagonal(states, 0);
+        int[][] merged = Due.diagonal(states - 1, 0);
+        for (int state = 0; state < states; state++) {
+            int left = state == high ? low : state < high ? state : state - 1;
+            rows[state][state == high ? low : state] = state + 1;
+            merged[left][left] += state + 1;
+        }
+        rows[low][high] = rows[low][low];
+        rows[high][high] = rows[high][low];
+        // 4 + 6 and 5 + 6, of the states 3, 4 and 5.
+        boolean isAboveNine = merged[low][low] > 9;
+        for (int order = 0; order < 2; order++) {
+            int first = order == 0 ? low : high;
+            int second = low + high - first;
+            String pair = "(" + first + ", " + second + ") of " + states;
+            ShiftWorkbench x = Due.bench(rows);
+            Due.is("outMerge" + pair, x.outMerge(first, second), isAboveNine ? Due.LIMIT : states - 1);
+            Due.matrix("after outMerge" + pair, x, isAboveNine ? rows : merged);
+            ShiftWorkbench y = Due.bench(transposed(rows));
+            Due.is("inMerge" + pair, y.inMerge(first, second), isAboveNine ? Due.LIMIT : states - 1);
+            Due.matrix("after inMerge" + pair, y, isAboveNine ? transposed(rows) : merged);
+        }
+    }
+
+    private static int[][] transposed(int[][] rows) {
+        int[][] columns = new int[rows.length][rows.length];
+        for (int row = 0; row < rows.length; row++) {
+            for (int column = 0; column < rows.length; column++) {
+                columns[column][row] = rows[row][column];
+            }
+        }
+        return columns;
+    }
+
     private static void coreSize() {
         Due.is("coreSize() of ones", new ShiftWorkbench().coreSize(), 1);
         Due.is("coreSize() of one state", Due.bench(Due.row(0)).coreSize(), 1);
@@ -152,5 +250,22 @@ public final class SplittingTest {
         Due.matrix("after coreSize()", x, rows);
         Due.is("undo() after coreSize() takes the entry before it", x.undo(), 3);
         Due.is("entry(3, 3) after undo()", x.entry(3, 3), 0);
+    }
+
+    /** "without regard to the limit of entries": a merge that would be refused counts, and those that follow it. */
+    private static void coreSizeWithoutLimit() {
+        ShiftWorkbench x = Due.bench(Due.row(9, 9, 0), Due.row(9, 9, 0), Due.row(0, 0, 1));
+        Due.is("outMerge(0, 1) above 9", x.outMerge(0, 1), Due.LIMIT);
+        Due.is("coreSize() above 9", x.coreSize(), 2);
+        // The merge of 0 and 1 makes 18 of the first entry, and only then are the columns of 2 and 3 equal.
+        ShiftWorkbench y = Due.bench(Due.row(9, 9, 8, 7), Due.row(9, 9, 2, 3), Due.row(0, 0, 1, 1), Due.row(0, 0, 4, 4));
+        Due.is("outMerge(2, 3) before", y.outMerge(2, 3), Due.IMPOSSIBLE);
+        Due.is("coreSize() after a merge above 9", y.coreSize(), 2);
+        ShiftWorkbench z = Due.bench(Due.row(9, 9, 9), Due.row(9, 9, 9), Due.row(1, 1, 0));
+        Due.is("coreSize() of 18 and 18 that differ in the row below", z.coreSize(), 2);
+        z.setEntry(2, 2, 1);
+        Due.is("coreSize() of 18 and 18 that do not", z.coreSize(), 1);
+        ShiftWorkbench apart = Due.bench(Due.row(9, 9, 8), Due.row(9, 9, 9), Due.row(1, 1, 1));
+        Due.is("coreSize() of 18 and 17", apart.coreSize(), 2);
     }
 }
