@@ -138,11 +138,7 @@ public final class NumbersTest {
         Due.is("determinant() of a ring", Due.bench(
                 Due.row(0, 2, 0), Due.row(0, 0, 3), Due.row(4, 0, 0)).determinant(), -23);
         Due.is("determinant() of nines", Due.bench(Due.full(6, 9)).determinant(), -53);
-        ShiftWorkbench diagonal = Due.bench(Due.full(6, 0));
-        for (int state = 0; state < 6; state++) {
-            diagonal.setEntry(state, state, 9);
-        }
-        Due.is("determinant() of 9 * I", diagonal.determinant(), 262144);
+        Due.is("determinant() of 9 * I", Due.bench(Due.diagonal(6, 9)).determinant(), 262144);
     }
 
     private static void factors(ShiftWorkbench x, String what, long... want) {
