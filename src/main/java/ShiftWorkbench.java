@@ -309,8 +309,8 @@ public final class ShiftWorkbench {
             return INVALID_ARGUMENT;
         }
         load(draft, matrix, incoming);
-        for (int other = 0; other < draft.order(); other++) {
-            if (shares[other] > draft.cell(state, other)) {
+        for (int other = 0; other < MAX_STATES; other++) {
+            if (draft.has(other) && shares[other] > draft.cell(state, other)) {
                 return NOT_POSSIBLE;
             }
         }
@@ -677,7 +677,8 @@ public final class ShiftWorkbench {
 
         private long lengthenedTo(Matrix matrix, int to) {
             long sum = 0;
-            for (int from = 0; from < matrix.order(); from++) {
+            // The cells beyond the matrix's order are read as 0.
+            for (int from = 0; from < MAX_STATES; from++) {
                 sum += ending[from] * matrix.cell(from, to);
             }
             return sum;
@@ -694,8 +695,8 @@ public final class ShiftWorkbench {
         /** Takes diagonal * I + times * A. */
         void take(Matrix matrix, long diagonal, long times) {
             order = matrix.order();
-            for (int row = 0; row < order; row++) {
-                for (int column = 0; column < order; column++) {
+            for (int row = 0; row < MAX_STATES; row++) {
+                for (int column = 0; column < MAX_STATES; column++) {
                     long ofDiagonal = row == column ? diagonal : 0;
                     cells[row * MAX_STATES + column] = ofDiagonal + times * matrix.cell(row, column);
                 }
@@ -768,7 +769,7 @@ public final class ShiftWorkbench {
 
         private int chooseRows(int rows) {
             int count = 0;
-            for (int row = 0; row < order; row++) {
+            for (int row = 0; row < order && count < MAX_STATES; row++) {
                 if ((rows >> row & 1) != 0) {
                     chosenRows[count] = row;
                     count++;
@@ -783,7 +784,7 @@ public final class ShiftWorkbench {
             // The sign of the last row's last cell is plus; from there it changes from column to column.
             for (int column = order - 1; column >= 0; column--) {
                 if ((columns >> column & 1) != 0) {
-                    sum += sign * cells[row * MAX_STATES + column] * minorOf[columns - (1 << column)];
+                    sum += sign * cells[row * MAX_STATES + column] * minorOf[columns & ~(1 << column)];
                     sign = -sign;
                 }
             }
